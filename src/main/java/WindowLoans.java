@@ -207,18 +207,14 @@ public final class WindowLoans {
             return NONE;
         }
         for (int k = 0; k < n; k++) {
-            passNight();
+            standing.lightFeasts();
+            standing.keepSights();
+            if (terrace.taxes.find(standing.night) != NONE) {
+                payTax();
+            }
+            standing.goOn();
         }
         return standing.night;
-    }
-
-    private void passNight() {
-        standing.lightFeasts();
-        standing.keepSights();
-        if (terrace.taxes.find(standing.night) != NONE) {
-            payTax();
-        }
-        standing.goOn();
     }
 
     private void payTax() {
@@ -318,7 +314,7 @@ public final class WindowLoans {
     }
 
     public int least(int night, int m, int what) {
-        if (!seekLeast(night, m)) {
+        if (!reckoner.seekLeast(orders, night, m)) {
             return NONE;
         }
         if (what == 0) {
@@ -328,19 +324,10 @@ public final class WindowLoans {
     }
 
     public int placed(int night, int m, int pane) {
-        if (!terrace.panes.has(pane) || !seekLeast(night, m)) {
+        if (!terrace.panes.has(pane) || !reckoner.seekLeast(orders, night, m)) {
             return NONE;
         }
         return Orders.answer(reckoner.leastOrder, pane);
-    }
-
-    private boolean seekLeast(int night, int m) {
-        if (night < 0 || night > LAST_NIGHT || m < 0 || m > MOST_MOVES_ASKED) {
-            return false;
-        }
-        orders.list();
-        reckoner.seekLeast(orders, night, m);
-        return true;
     }
 
     public int most() {
@@ -545,25 +532,21 @@ public final class WindowLoans {
 
         /** The TOKEN written in these bytes to the letter, UNKNOWN if none is. */
         static Token written(byte[] bytes, int from, int until) {
+            if (from < 0 || until > bytes.length) {
+                return UNKNOWN;
+            }
             for (int k = 0; k < ALL.length; k++) {
-                if (ALL[k].isWritten(bytes, from, until)) {
+                int length = ALL[k].letters.length();
+                int same = 0;
+                while (same < length && length == until - from
+                        && ALL[k].letters.charAt(same) == bytes[from + same]) {
+                    same++;
+                }
+                if (same > 0 && same == length) {
                     return ALL[k];
                 }
             }
             return UNKNOWN;
-        }
-
-        private boolean isWritten(byte[] bytes, int from, int until) {
-            int length = letters.length();
-            if (length == 0 || length != until - from || from < 0 || until > bytes.length) {
-                return false;
-            }
-            for (int k = 0; k < length; k++) {
-                if (letters.charAt(k) != bytes[from + k]) {
-                    return false;
-                }
-            }
-            return true;
         }
     }
 
@@ -578,6 +561,8 @@ public final class WindowLoans {
         private int at = 0;
         Token token = Token.END;
         int place = 0;
+        /** Of the TOKEN ahead of this one. */
+        int placeAhead = 0;
         int number = 0;
         int letters = 0;
 
@@ -595,15 +580,24 @@ public final class WindowLoans {
             while (at < length && (bytes[at] == ' ' || bytes[at] == '\n')) {
                 at++;
             }
+            placeAhead = place;
             place = at;
             if (at >= length) {
                 token = Token.END;
-            } else if (isLetter(at)) {
-                readWord();
             } else if (isDigit(at)) {
                 readNumber();
+                token = Token.NUMBER;
             } else {
-                readSign();
+                boolean isWord = isLetter(at);
+                if (isWord) {
+                    readLetters();
+                } else {
+                    passSign();
+                }
+                token = Token.written(bytes, place, at);
+                if (token == Token.UNKNOWN && isWord && at - place <= MOST_LETTERS) {
+                    token = Token.NAME;
+                }
             }
         }
 
@@ -619,17 +613,13 @@ public final class WindowLoans {
             return k < length && bytes[k] == sign;
         }
 
-        private void readWord() {
+        private void readLetters() {
             letters = 0;
             for (; isLetter(at); at++) {
                 int k = at - place;
                 if (k < MOST_LETTERS) {
                     letters |= (bytes[at] - 'a' + 1) << (5 * (MOST_LETTERS - 1 - k));
                 }
-            }
-            token = Token.written(bytes, place, at);
-            if (token == Token.UNKNOWN && at - place <= MOST_LETTERS) {
-                token = Token.NAME;
             }
         }
 
@@ -638,17 +628,15 @@ public final class WindowLoans {
             for (; isDigit(at); at++) {
                 number = Math.min(HIGH, number * 10 + bytes[at] - '0');
             }
-            token = Token.NUMBER;
         }
 
-        private void readSign() {
+        private void passSign() {
             boolean less = isByte(at, '<');
             boolean more = isByte(at, '>');
             at++;
             if ((less || more) && isByte(at, '=') || less && isByte(at, '>')) {
                 at++;
             }
-            token = Token.written(bytes, place, at);
         }
     }
 
@@ -851,6 +839,15 @@ public final class WindowLoans {
             Arrays.fill(ends, 0);
         }
 
+        static int kindOf(Token token) {
+            switch (token) {
+                case DUE: return Laws.DUE;
+                case SNAP: return Laws.SNAP;
+                case HARM: return Laws.HARM;
+                default: return NONE;
+            }
+        }
+
         boolean isTold(int which) {
             return which >= 0 && which < KINDS && ends[which] > starts[which];
         }
@@ -914,7 +911,9 @@ public final class WindowLoans {
 
         private int takeSign(Token token) {
             if (token == Token.CLOSE && open > 0) {
-                takeClose();
+                writeWaiting(0);
+                waits = Math.max(0, waits - 1);
+                open--;
                 return 0;
             }
             // A second comparison needs parentheses, by the language's C.
@@ -931,12 +930,6 @@ public final class WindowLoans {
             compared[open] = token.compares() || compared[open] && !mayDeny;
             wantsValue = true;
             return 0;
-        }
-
-        private void takeClose() {
-            writeWaiting(0);
-            waits = Math.max(0, waits - 1);
-            open--;
         }
 
         private void await(Token token) {
@@ -984,7 +977,7 @@ public final class WindowLoans {
                         return ERROR;
                     }
                 } else if (knot == Token.NOT && height >= 1) {
-                    values[height - 1] = truth(values[height - 1] == 0L);
+                    values[height - 1] = values[height - 1] == 0L ? 1L : 0L;
                 } else if (height < MOST_KNOTS) {
                     values[height] = knot == Token.NUMBER ? numbers[k]
                         : quantity(knot, panes, size, place, far, night);
@@ -1005,36 +998,25 @@ public final class WindowLoans {
         }
 
         private static long joined(Token sign, long left, long right) {
+            // Looked at ahead of multiplying: a product of two values can be beyond a long.
+            long most = left == 0L ? LIMIT : LIMIT / (left < 0L ? -left : left);
+            boolean tooLarge = right > most || right < -most;
+            long value;
             switch (sign) {
-                case OR: return truth(left != 0L || right != 0L);
-                case AND: return truth(left != 0L && right != 0L);
-                case LESS: return truth(left < right);
-                case AT_MOST: return truth(left <= right);
-                case EQUAL: return truth(left == right);
-                case UNLIKE: return truth(left != right);
-                case AT_LEAST: return truth(left >= right);
-                case MORE: return truth(left > right);
-                case PLUS: return within(left + right);
-                case MINUS: return within(left - right);
-                case TIMES: return product(left, right);
-                default: return right == 0L ? ERROR : left / right;
+                case OR: return left != 0L || right != 0L ? 1L : 0L;
+                case AND: return left != 0L && right != 0L ? 1L : 0L;
+                case LESS: return left < right ? 1L : 0L;
+                case AT_MOST: return left <= right ? 1L : 0L;
+                case EQUAL: return left == right ? 1L : 0L;
+                case UNLIKE: return left != right ? 1L : 0L;
+                case AT_LEAST: return left >= right ? 1L : 0L;
+                case MORE: return left > right ? 1L : 0L;
+                case PLUS: value = left + right; break;
+                case MINUS: value = left - right; break;
+                case BY: value = right == 0L ? ERROR : left / right; break;
+                default: value = tooLarge ? ERROR : left * right;
             }
-        }
-
-        private static long truth(boolean is) {
-            return is ? 1L : 0L;
-        }
-
-        private static long within(long value) {
             return value > LIMIT || value < -LIMIT ? ERROR : value;
-        }
-
-        /** Looks ahead of multiplying, because the product of two values can be beyond a long. */
-        private static long product(long left, long right) {
-            if (left != 0L && Math.abs(right) > LIMIT / Math.abs(left)) {
-                return ERROR;
-            }
-            return left * right;
         }
     }
 
@@ -1052,8 +1034,7 @@ public final class WindowLoans {
         int faultPlace = NONE;
         private final Scanner scanner;
         private final Terrace terrace;
-        /** Of the TOKEN taken last: its place, and its number, letters or what they name. */
-        private int takenPlace = 0;
+        /** Of the TOKEN taken last: its number, its letters, or what they name. */
         private int taken = 0;
         private boolean carriersTold = false;
         private boolean seedTold = false;
@@ -1075,9 +1056,14 @@ public final class WindowLoans {
                 if (scanner.token == Token.END) {
                     return lines;
                 }
-                if (!readLine() || !endLine()) {
+                if (!readLine()) {
                     return NONE;
                 }
+                if (scanner.token != Token.STOP) {
+                    wrongHere(BAD_TOKEN);
+                    return NONE;
+                }
+                scanner.step();
             }
             return NONE;
         }
@@ -1105,16 +1091,8 @@ public final class WindowLoans {
 
         private boolean wrongTaken(int number) {
             fault = number;
-            faultPlace = takenPlace;
+            faultPlace = scanner.placeAhead;
             return false;
-        }
-
-        private boolean endLine() {
-            if (scanner.token != Token.STOP) {
-                return wrongHere(BAD_TOKEN);
-            }
-            scanner.step();
-            return true;
         }
 
         private boolean startLine(boolean refused, int why) {
@@ -1125,12 +1103,6 @@ public final class WindowLoans {
             return true;
         }
 
-        private void take(int meaning) {
-            takenPlace = scanner.place;
-            taken = meaning;
-            scanner.step();
-        }
-
         private boolean takeNumber(int least, int most) {
             if (scanner.token != Token.NUMBER) {
                 return wrongHere(BAD_TOKEN);
@@ -1138,7 +1110,8 @@ public final class WindowLoans {
             if (scanner.number < least || scanner.number > most) {
                 return wrongHere(TOO_MUCH);
             }
-            take(scanner.number);
+            taken = scanner.number;
+            scanner.step();
             return true;
         }
 
@@ -1149,7 +1122,8 @@ public final class WindowLoans {
             if (names.find(scanner.letters) != NONE) {
                 return wrongHere(TOLD_ALREADY);
             }
-            take(scanner.letters);
+            taken = scanner.letters;
+            scanner.step();
             return true;
         }
 
@@ -1157,11 +1131,11 @@ public final class WindowLoans {
             if (scanner.token != Token.NAME) {
                 return wrongHere(BAD_TOKEN);
             }
-            int number = names.find(scanner.letters);
-            if (number == NONE) {
+            taken = names.find(scanner.letters);
+            if (taken == NONE) {
                 return wrongHere(NOT_TOLD);
             }
-            take(number);
+            scanner.step();
             return true;
         }
 
@@ -1210,21 +1184,16 @@ public final class WindowLoans {
             int hole = NONE;
             if (scanner.token == Token.IN) {
                 scanner.step();
-                if (!takeHoleFor(size)) {
+                if (!takeToldName(terrace.holes)) {
                     return false;
                 }
                 hole = taken;
+                if (terrace.hangsAtFirst(hole) || !terrace.sizesFit(size, terrace.holeSizes[hole])) {
+                    return wrongTaken(NO_FIT);
+                }
             }
             terrace.addPane(letters, size, hole);
             return true;
-        }
-
-        private boolean takeHoleFor(int size) {
-            if (!takeToldName(terrace.holes)) {
-                return false;
-            }
-            boolean fits = terrace.sizesFit(size, terrace.holeSizes[taken]);
-            return fits && !terrace.hangsAtFirst(taken) || wrongTaken(NO_FIT);
         }
 
         private boolean readFrame() {
@@ -1287,15 +1256,10 @@ public final class WindowLoans {
 
         private boolean readLaw() {
             scanner.step();
-            switch (scanner.token) {
-                case DUE: return readFormula(Laws.DUE);
-                case SNAP: return readFormula(Laws.SNAP);
-                case HARM: return readFormula(Laws.HARM);
-                default: return wrongHere(BAD_TOKEN);
+            int kind = Laws.kindOf(scanner.token);
+            if (kind == NONE) {
+                return wrongHere(BAD_TOKEN);
             }
-        }
-
-        private boolean readFormula(int kind) {
             Laws laws = terrace.laws;
             if (laws.isTold(kind)) {
                 return wrongHere(TOLD_ALREADY);
@@ -1555,16 +1519,23 @@ public final class WindowLoans {
     private static final class Planner {
         private static final int FAR = 1000;
         private static final int BLOTTED_ORDERS = 010000;
-        /** By the panes (bits) that are blotted out: a digit 7 for each, which no place has. */
+        /** Blots for all sets of panes, small sets first: the digit 7, which is no pane's place. */
         private static final int[] BLOTS = {
-            0, 07, 070, 077, 0700, 0707, 0770, 0777,
-            07000, 07007, 07070, 07077, 07700, 07707, 07770, 07777
+            0,
+            07, 070, 0700, 07000,
+            077, 0707, 07007, 0770, 07070, 07700,
+            0777, 07077, 07707, 07770,
+            07777
         };
+        /** Where the blots for sets of so many panes begin, and the end of all. */
+        private static final int[] BEGINS = {0, 1, 5, 11, 15, 16};
 
         private final int[] nights = new int[MOST_FEASTS];
         private final int[] budgets = new int[MOST_FEASTS];
         private final int[][] rests = new int[MOST_FEASTS][Orders.MOST];
         private final int[] best = new int[BLOTTED_ORDERS];
+        /** Of each order, the stages (bits) whose FEASTS are LIT by it. */
+        private final int[] litStages = new int[Orders.MOST];
         private int stages = 0;
         private int feasts = 0;
         private final Terrace terrace;
@@ -1587,6 +1558,9 @@ public final class WindowLoans {
                 stages++;
                 night = nextNight(night);
             }
+            for (int k = 0; k < orders.count; k++) {
+                litStages[k] = stagesLitBy(orders.listed[k]);
+            }
         }
 
         private int nextNight(int behind) {
@@ -1599,6 +1573,24 @@ public final class WindowLoans {
                 }
             }
             return next;
+        }
+
+        private int stagesLitBy(int order) {
+            int bits = (1 << stages) - 1;
+            for (int feast = 0; feast < terrace.feasts; feast++) {
+                if ((feasts >> feast & 1) != 0 && !terrace.isLit(feast, order)) {
+                    bits &= ~(1 << stageOf(terrace.feastNights[feast]));
+                }
+            }
+            return bits;
+        }
+
+        private int stageOf(int night) {
+            int stage = 0;
+            while (stage < stages && nights[stage] != night) {
+                stage++;
+            }
+            return stage;
         }
 
         /** The fewest MOVES for what was asked; MISSING if so many carriers have no PLAN. */
@@ -1617,18 +1609,19 @@ public final class WindowLoans {
 
         private void setBudgets(int carriers) {
             int night = standing.night - 1;
+            int gone = standing.moves;
             for (int stage = 0; stage < stages; stage++) {
-                budgets[stage] = carriers * (nights[stage] - night);
+                budgets[stage] = Math.max(0, carriers * (nights[stage] - night) - gone);
                 night = nights[stage];
+                gone = 0;
             }
-            budgets[0] = Math.max(0, budgets[0] - standing.moves);
         }
 
         private void rate(int stage) {
             boolean isLast = stage == stages - 1;
             for (int k = 0; k < orders.count; k++) {
                 int order = orders.listed[k];
-                if (!lights(stage, order)) {
+                if ((litStages[k] >> stage & 1) == 0) {
                     rests[stage][k] = FAR;
                 } else {
                     rests[stage][k] = isLast ? 0 : fewestFrom(order, budgets[stage + 1]);
@@ -1636,24 +1629,13 @@ public final class WindowLoans {
             }
         }
 
-        private boolean lights(int stage, int order) {
-            for (int feast = 0; feast < terrace.feasts; feast++) {
-                boolean asked = (feasts >> feast & 1) != 0;
-                if (asked && terrace.feastNights[feast] == nights[stage]
-                        && !terrace.isLit(feast, order)) {
-                    return false;
-                }
-            }
-            return true;
-        }
-
         private void blot(int stage) {
             Arrays.fill(best, FAR);
-            int subsets = 1 << terrace.panes.count;
+            int end = BEGINS[Math.min(budgets[stage], MOST_PANES) + 1];
             for (int k = 0; k < orders.count; k++) {
                 int rest = rests[stage][k];
-                for (int subset = 0; rest < FAR && subset < subsets; subset++) {
-                    int blotted = orders.listed[k] | BLOTS[subset];
+                for (int b = 0; rest < FAR && b < end; b++) {
+                    int blotted = orders.listed[k] | BLOTS[b];
                     best[blotted] = Math.min(best[blotted], rest);
                 }
             }
@@ -1662,11 +1644,10 @@ public final class WindowLoans {
         /** The fewest MOVES from an order by one of the stage that was blotted last, and on. */
         private int fewestFrom(int order, int budget) {
             int fewest = FAR;
-            int subsets = 1 << terrace.panes.count;
-            for (int subset = 0; subset < subsets; subset++) {
-                int moves = Integer.bitCount(subset);
-                if (moves <= budget) {
-                    fewest = Math.min(fewest, best[order | BLOTS[subset]] + moves);
+            int most = Math.min(budget, MOST_PANES);
+            for (int moves = 0; moves <= most && moves < fewest; moves++) {
+                for (int b = BEGINS[moves]; b < BEGINS[moves + 1]; b++) {
+                    fewest = Math.min(fewest, best[order | BLOTS[b]] + moves);
                 }
             }
             return fewest;
@@ -1775,9 +1756,16 @@ public final class WindowLoans {
             return pane == NONE ? 0 : terrace.paneSizes[pane];
         }
 
-        /** LEAST TAX among all orders; there always is one, for that of now takes no MOVES. */
-        void seekLeast(Orders orders, int night, int most) {
+        /**
+         * Seeks the LEAST TAX among all orders; there always is one, for that of now takes no
+         * MOVES. False: no such NIGHT, or no such number of MOVES.
+         */
+        boolean seekLeast(Orders orders, int night, int most) {
+            if (night < 0 || night > LAST_NIGHT || most < 0 || most > MOST_MOVES_ASKED) {
+                return false;
+            }
             int now = standing.order();
+            orders.list();
             fillDues(night);
             leastTax = Integer.MAX_VALUE;
             leastMoves = 0;
@@ -1792,6 +1780,7 @@ public final class WindowLoans {
                     leastOrder = order;
                 }
             }
+            return true;
         }
 
         private void fillDues(int night) {
