@@ -1364,23 +1364,14 @@ public final class WindowLoans {
             moves += byMove ? 1 : 0;
         }
 
+        /** Never runs out of room: nine MOVES and four birds are the most that a NIGHT can hold. */
         private void remember(int pane, boolean byMove) {
-            if (toUndo == MOST_TO_UNDO) {
-                forgetFirst();
+            if (toUndo < MOST_TO_UNDO) {
+                undoPanes[toUndo] = pane;
+                undoPlaces[toUndo] = where[pane];
+                undoMoves[toUndo] = byMove;
+                toUndo++;
             }
-            undoPanes[toUndo] = pane;
-            undoPlaces[toUndo] = where[pane];
-            undoMoves[toUndo] = byMove;
-            toUndo++;
-        }
-
-        private void forgetFirst() {
-            for (int k = 1; k < toUndo; k++) {
-                undoPanes[k - 1] = undoPanes[k];
-                undoPlaces[k - 1] = undoPlaces[k];
-                undoMoves[k - 1] = undoMoves[k];
-            }
-            toUndo--;
         }
 
         boolean takeBack() {

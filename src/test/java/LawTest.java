@@ -60,6 +60,10 @@ public final class LawTest {
         due("not 0 + 1", 0);
         due("1 < 2 and 2 < 3", 1);
         due("5 - 3 > 1 or 1 / 1 > 7", 1);
+        due("not ".repeat(63) + "0", 1);
+        due("not ".repeat(62) + "0", 0);
+        due("(not ".repeat(8) + "not ".repeat(54) + "7" + ")".repeat(8), 1);
+        due("1 + (".repeat(8) + "1 + 1 * 2 - 3" + ")".repeat(8), 8);
     }
 
     private static void errors() {

@@ -49,6 +49,10 @@ public final class PaneTest {
         CHECK.due("broken, its size", look(x, 0, 1), 1);
         CHECK.due("broken, it fits", look(x, 0, 2), 3);
         CHECK.due("of nothing told", look(new WindowLoans(), 0, 7), -100);
+        x = Check.told("house a;hole p a 1;hole q a 2;hole r a 8;hole s a 9;frame 1 9;frame 9 1;pane u 1;pane v 2;pane w 9;");
+        CHECK.due("1 fits 1 and 9", look(x, 0, 2), 9);
+        CHECK.due("2 fits 2", look(x, 1, 2), 2);
+        CHECK.due("9 fits 9 and 1", look(x, 2, 2), 9);
     }
 
     private static void holes() {

@@ -7,7 +7,9 @@ public final class RandomFaultsTest {
         Random random = new Random(20261118);
         RandomTexts texts = new RandomTexts(random);
         int[] seen = new int[6];
+        WindowLoans x = new WindowLoans();
         for (int k = 0; k < 60000; k++) {
+            x = k % 8 == 0 ? new WindowLoans() : x;
             String text = texts.whole();
             if (k % 3 == 0) {
                 text = "law due " + texts.flat(1 + random.nextInt(12)) + ";";
@@ -16,7 +18,7 @@ public final class RandomFaultsTest {
                 text = texts.spoilt(text);
             }
             if (text.length() <= 700) {
-                seen[compare(check, text)]++;
+                seen[compare(check, x, text)]++;
             }
         }
         for (int fault = 0; fault < seen.length; fault++) {
@@ -25,8 +27,9 @@ public final class RandomFaultsTest {
         check.end();
     }
 
-    private static int compare(Check check, String text) {
-        WindowLoans x = new WindowLoans();
+    /** Some texts come to the same object, so that nothing of one may linger in the next. */
+    private static int compare(Check check, WindowLoans x, String text) {
+        int before = told(x);
         int lines = Check.tell(x, text);
         String call = "'" + text + "'";
         try {
@@ -48,8 +51,16 @@ public final class RandomFaultsTest {
             check.due(call + " lines", lines, -1);
             check.due(call + " fault", x.fault(0), fault.number);
             check.due(call + " place", x.fault(1), fault.place);
-            check.due(call + " nothing told", x.count(0) + x.count(1) + x.count(2) + x.count(4), 0);
+            check.due(call + " all stays", told(x), before);
             return fault.number;
         }
+    }
+
+    private static int told(WindowLoans x) {
+        int told = 0;
+        for (int what = 0; what < 5; what++) {
+            told = told * 65 + x.count(what);
+        }
+        return told;
     }
 }

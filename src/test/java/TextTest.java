@@ -92,6 +92,8 @@ public final class TextTest {
         CHECK.due("place of it", x.fault(1), 5);
         CHECK.due("nor 13", Check.tell(x, "house a\r;"), -1);
         CHECK.due("nor 160", Check.tell(x, "\u00a0house a;"), -1);
+        CHECK.due("a fault within parentheses", Check.tell(x, "law due ((1 + not"), -1);
+        CHECK.due("leaves none open", Check.tell(x, "law due 1;law harm 2 * 3;"), 2);
     }
 
     private static void names() {
@@ -167,6 +169,7 @@ public final class TextTest {
         fault(panes + "pane a 1;", 2, 36);
         String frames = "frame 1 1;frame 1 2;frame 2 1;frame 9 9;";
         whole(frames, 4);
+        whole("frame 1 9;frame 2 1;frame 9 1;frame 8 9;", 4);
         fault(frames + "frame 3 3;", 2, 40);
         String feasts = "house a;feast 0 a 0;feast 0 a 0;feast 60 a 6;feast 1 a 1;feast 2 a 1;";
         whole(feasts, 6);
@@ -227,6 +230,18 @@ public final class TextTest {
         fault("house a;hole p a 3;pane u 2 in p !", 5, 31);
         fault("house a;hole p a 3;pane u 2 ! in p", 1, 28);
         fault("frame 0 0 !", 2, 6);
+        cutOff("house ab", 7);
+        cutOff("tax 12", 5);
+        cutOff("law due 1<=1;", 10);
+        cutOff("law due 1>=1;", 10);
+    }
+
+    /** Bytes behind the first n don't count, though a token would go on in them. */
+    private static void cutOff(String text, int n) {
+        WindowLoans x = new WindowLoans();
+        CHECK.due("'" + text + "', " + n, Check.tell(x, text, n), -1);
+        CHECK.due("'" + text + "', " + n + " fault", x.fault(0), 1);
+        CHECK.due("'" + text + "', " + n + " place", x.fault(1), n);
     }
 
     private static void formulas() {
