@@ -238,6 +238,16 @@ public final class PaneTest {
         CHECK.due("another one", x.keep(), 3);
         x.nights(5);
         CHECK.due("in its place", x.back(), 3);
+        x = Check.told("house a;hole p a 1;pane u 1 in p;feast 0 a 1;feast 1 a 1;");
+        x.nights(1);
+        x.keep();
+        x.nights(1);
+        CHECK.due("both were lit", x.feast(0) + x.feast(1), 2);
+        x.back();
+        x.bird(0);
+        x.nights(1);
+        CHECK.due("the first one was lit", x.feast(0), 1);
+        CHECK.due("the second one isn't this time", x.feast(1), 0);
     }
 
     private static void counts() {
