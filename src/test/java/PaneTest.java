@@ -1,5 +1,3 @@
-import java.util.NoSuchElementException;
-
 /** Promises 6, 7, 8, 10, 30 to 34: looks, moves, birds, what is undone, images, counts. */
 public final class PaneTest {
     private static final Check CHECK = new Check();
@@ -20,39 +18,28 @@ public final class PaneTest {
         CHECK.end();
     }
 
-    /** What look() answers, or -100 and -200 for its two exceptions. */
-    private static int look(WindowLoans x, int pane, int what) {
-        try {
-            return x.look(pane, what);
-        } catch (IndexOutOfBoundsException e) {
-            return -100;
-        } catch (NoSuchElementException e) {
-            return -200;
-        }
-    }
-
     private static void looks() {
         WindowLoans x = Check.told(TERRACE);
-        CHECK.due("u hangs", look(x, 0, 0), 0);
-        CHECK.due("v in store", look(x, 1, 0), -1);
-        CHECK.due("size of u", look(x, 0, 1), 1);
-        CHECK.due("size of v", look(x, 1, 1), 2);
-        CHECK.due("u fits", look(x, 0, 2), 3);
-        CHECK.due("v fits by a frame told behind it", look(x, 1, 2), 15);
-        CHECK.due("what 3", look(x, 0, 3), -200);
-        CHECK.due("what -1", look(x, 0, -1), -200);
-        CHECK.due("pane 2", look(x, 2, 0), -100);
-        CHECK.due("pane -1", look(x, -1, 0), -100);
-        CHECK.due("pane -2 and no what", look(x, -2, 9), -100);
+        CHECK.due("u hangs", Check.look(x, 0, 0), 0);
+        CHECK.due("v in store", Check.look(x, 1, 0), -1);
+        CHECK.due("size of u", Check.look(x, 0, 1), 1);
+        CHECK.due("size of v", Check.look(x, 1, 1), 2);
+        CHECK.due("u fits", Check.look(x, 0, 2), 3);
+        CHECK.due("v fits by a frame told behind it", Check.look(x, 1, 2), 15);
+        CHECK.due("what 3", Check.look(x, 0, 3), Check.NO_WHAT);
+        CHECK.due("what -1", Check.look(x, 0, -1), Check.NO_WHAT);
+        CHECK.due("pane 2", Check.look(x, 2, 0), Check.NO_PANE);
+        CHECK.due("pane -1", Check.look(x, -1, 0), Check.NO_PANE);
+        CHECK.due("pane -2 and no what", Check.look(x, -2, 9), Check.NO_PANE);
         x.bird(0);
-        CHECK.due("broken", look(x, 0, 0), -2);
-        CHECK.due("broken, its size", look(x, 0, 1), 1);
-        CHECK.due("broken, it fits", look(x, 0, 2), 3);
-        CHECK.due("of nothing told", look(new WindowLoans(), 0, 7), -100);
+        CHECK.due("broken", Check.look(x, 0, 0), -2);
+        CHECK.due("broken, its size", Check.look(x, 0, 1), 1);
+        CHECK.due("broken, it fits", Check.look(x, 0, 2), 3);
+        CHECK.due("of nothing told", Check.look(new WindowLoans(), 0, 7), Check.NO_PANE);
         x = Check.told("house a;hole p a 1;hole q a 2;hole r a 8;hole s a 9;frame 1 9;frame 9 1;pane u 1;pane v 2;pane w 9;");
-        CHECK.due("1 fits 1 and 9", look(x, 0, 2), 9);
-        CHECK.due("2 fits 2", look(x, 1, 2), 2);
-        CHECK.due("9 fits 9 and 1", look(x, 2, 2), 9);
+        CHECK.due("1 fits 1 and 9", Check.look(x, 0, 2), 9);
+        CHECK.due("2 fits 2", Check.look(x, 1, 2), 2);
+        CHECK.due("9 fits 9 and 1", Check.look(x, 2, 2), 9);
     }
 
     private static void holes() {
