@@ -615,7 +615,7 @@ public final class WindowLoans {
 
         private void readLetters() {
             letters = 0;
-            for (; isLetter(at); at++) {
+            for (; at < length && isLetter(at); at++) {
                 int k = at - place;
                 if (k < MOST_LETTERS) {
                     letters |= (bytes[at] - 'a' + 1) << (5 * (MOST_LETTERS - 1 - k));
@@ -625,7 +625,7 @@ public final class WindowLoans {
 
         private void readNumber() {
             number = 0;
-            for (; isDigit(at); at++) {
+            for (; at < length && isDigit(at); at++) {
                 number = Math.min(HIGH, number * 10 + bytes[at] - '0');
             }
         }

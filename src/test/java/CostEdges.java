@@ -25,6 +25,32 @@ final class CostEdges {
         c.due("nothing is moved by asking", x.look(0, 0), 0);
     }
 
+    @Sentence(promise = 17, says = "the sum of all HOUSES")
+    static void allHousesAndPanes(Check c) {
+        // a pane in the first house saves 1, one in another house costs the more the further it is
+        WindowLoans x = Check.told("house a;house b;house c;house d;house e;hole p a 1;hole q b 1;hole r c 1;hole s d 1;"
+            + "hole t e 1;hole w e 1;pane u 1 in q;pane v 1 in r;pane w 1 in t;pane z 1 in w;law due 1 + panes * (place * 10 - 1);");
+        int[] sums = {1 + 10 + 20 + 1 + 79, 10 + 20 + 1 + 40, 10 + 20 + 1 + 1, 10 + 1 + 1 + 1, 1 + 1 + 1 + 1};
+        for (int m = 0; m <= 9; m++) {
+            c.due("least(0, " + m + ", 0)", x.least(0, m, 0), sums[Math.min(m, 4)]);
+            c.due("least(0, " + m + ", 1)", x.least(0, m, 1), Math.min(m, 4));
+        }
+        c.due("the first of them in a", x.placed(0, 9, 0), 0);
+        c.due("the last one in store", x.placed(0, 9, 3), -2);
+    }
+
+    @Sentence(promise = 17, says = "(nothing breaks; all at once)")
+    static void twoChangePlaces(Check c) {
+        WindowLoans x = Check.told("house a;house b;frame 1 2;frame 2 1;hole p a 1;hole q b 2;pane u 1 in q;pane v 2 in p;"
+            + "law due place * (9 - size);law snap 100;carriers 0;");
+        c.due("as it hangs", x.least(0, 0, 0), 8);
+        c.due("one to store is no help", x.least(0, 1, 1), 0);
+        c.due("changed", x.least(0, 2, 0), 7);
+        c.due("by two moves", x.least(0, 9, 1), 2);
+        c.due("u where v was", x.placed(0, 9, 0), 0);
+        c.due("v where u was", x.placed(0, 9, 1), 1);
+    }
+
     @Sentence(promise = 17, says = "NONE: no such ones")
     static void leastOfNoSuchOnes(Check c) {
         WindowLoans x = Check.told(TAXED);
@@ -106,6 +132,7 @@ final class CostEdges {
         c.due("nothing told", new WindowLoans().most(), 0);
         c.due("no panes", Check.told(terrace).most(), 0);
         c.due("no holes", Check.told("pane u 1;pane v 1;").most(), 0);
+        c.due("one pane, one hole", Check.told("house a;hole p a 1;pane u 1;").most(), 1);
         c.due("none fits", Check.told(terrace + "pane u 9;").most(), 0);
         c.due("two for one hole", Check.told(terrace + "pane u 1;pane v 1;").most(), 1);
         c.due("by a frame", Check.told(terrace + "pane u 1;pane v 1;frame 1 2;").most(), 2);

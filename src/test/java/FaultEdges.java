@@ -182,6 +182,14 @@ final class FaultEdges {
         fault(c, 1, "law due (1^;");
         fault(c, 1, "law due 1^);");
         fault(c, 1, "law due (1)^);");
+        fault(c, 1, "law due 1 ^a 1;");
+        fault(c, 1, "law due 1 ^(1);");
+        for (String word : WORDS) {
+            if (!word.equals("or") && !word.equals("and")) {
+                fault(c, 1, "law due 1 ^" + word + " 1;");
+            }
+            fault(c, 1, "house a ^" + word + ";");
+        }
     }
 
     @Sentence(promise = 4, says = "(the length, if more must come)")
@@ -400,9 +408,29 @@ final class FaultEdges {
         fault(c, 1, "law due 1>=^=1;");
     }
 
+    @Sentence(promise = 3, says = "B: not B | C")
+    static void whereNotMayStand(Check c) {
+        whole(c, 1, "law due not 1;");
+        whole(c, 1, "law due not not (not 1);");
+        whole(c, 1, "law due 1 and not 1 or not not 1;");
+        whole(c, 1, "law due 1 + (not 1);");
+        whole(c, 1, "law due 1 < (not 1);");
+        whole(c, 1, "law due 1 * ((not 1) + 1);");
+        fault(c, 1, "law due (1 + ^not 1);");
+        fault(c, 1, "law due 1 * ^not 1;");
+        fault(c, 1, "law due (1) ^not 1;");
+        fault(c, 1, "law due not ^;");
+        fault(c, 1, "law due not ^and 1;");
+    }
+
     @Sentence(promise = 3, says = "C: S [ ( < | <= | = | <> | >= | > ) S ]")
     static void oneComparison(Check c) {
-        fault(c, 1, "law due 1 < 2 ^< 3;");
+        String[] signs = {"<", "<=", "=", "<>", ">=", ">"};
+        for (String one : signs) {
+            for (String other : signs) {
+                fault(c, 1, "law due 1 " + one + " 2 ^" + other + " 3;");
+            }
+        }
         fault(c, 1, "law due 1 = 2 + 3 * 4 ^= 3;");
         fault(c, 1, "law due 1 and 1 < 2 ^> 3;");
         fault(c, 1, "law due (1) < (2) ^<> 3;");

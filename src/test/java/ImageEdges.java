@@ -79,6 +79,23 @@ final class ImageEdges {
         c.due("and no more", x.move(0, -1), -2);
     }
 
+    @Sentence(promise = 33, says = "All is as in the IMAGE")
+    static void whatWentByIsForgotten(Check c) {
+        WindowLoans x = Check.told(TERRACE);
+        x.nights(1);
+        x.keep();
+        x.nights(60);
+        c.due("sights ahead", x.saw(0, 1, -1), 61);
+        c.due("lit ahead", x.feast(0) + x.feast(1), 2);
+        c.due("back", x.back(), 1);
+        c.due("sights of one night", x.saw(0, 1, -1), 1);
+        c.due("nothing is paid", x.count(10), 0);
+        x.bird(0);
+        x.nights(60);
+        c.due("sights of that night alone", x.saw(0, 1, -1), 1);
+        c.due("not lit this time", x.feast(0) + x.feast(1), 0);
+    }
+
     @Sentence(promise = 33, says = "(nothing to undo then)")
     static void nothingToUndoThen(Check c) {
         WindowLoans x = Check.told(TERRACE);

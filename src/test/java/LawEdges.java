@@ -210,6 +210,56 @@ final class LawEdges {
         due(c, "1 or " + LIMIT + " + 1", ERROR);
     }
 
+    @Sentence(promise = 9, says = "a 65th KNOT of all E")
+    static void asManyKnotsAsThereCanBe(Check c) {
+        due(c, "not ".repeat(63) + "0", 1);
+        due(c, "not ".repeat(62) + "0", 0);
+        due(c, "(not ".repeat(8) + "not ".repeat(55) + "7" + ")".repeat(8), 0);
+        due(c, "1" + "+1".repeat(31), 32);
+        due(c, "1 + (".repeat(8) + "1 + 1 * 2 - 3" + ")".repeat(8), 8);
+    }
+
+    @Sentence(promise = 9, says = "E: A { or A }. A: B { and B }. B: not B | C")
+    static void whatBindsMoreTightly(Check c) {
+        due(c, "1 or 0 and 0", 1);
+        due(c, "(1 or 0) and 0", 0);
+        due(c, "0 and 0 or 1", 1);
+        due(c, "not 0 and 0", 0);
+        due(c, "not (0 and 0)", 1);
+        due(c, "not 0 or 1", 1);
+        due(c, "not 1 = 2", 1);
+        due(c, "(not 1) = 2", 0);
+        due(c, "not 0 + 1", 0);
+    }
+
+    @Sentence(promise = 9, says = "S: T { ( + | - ) T }. T: P { ( * | / ) P }")
+    static void sumsAndProducts(Check c) {
+        due(c, "1 + 2 * 3", 7);
+        due(c, "2 * 3 + 1", 7);
+        due(c, "(1 + 2) * 3", 9);
+        due(c, "10 - 3 - 2", 5);
+        due(c, "10 - 3 + 2", 9);
+        due(c, "10 - (3 - 2)", 9);
+        due(c, "100 / 7 / 2", 7);
+        due(c, "100 / 7 * 2", 28);
+        due(c, "100 / (7 / 2)", 33);
+        due(c, "3 * 7 / 2", 10);
+        due(c, "7 / 2 * 3", 9);
+        due(c, "1 < 2 and 5 - 3 > 1", 1);
+    }
+
+    @Sentence(promise = 9, says = "C: S [ ( < | <= | = | <> | >= | > ) S ]")
+    static void comparisonsOfSums(Check c) {
+        String[] signs = {"<", "<=", "=", "<>", ">=", ">"};
+        int[] alike = {0, 1, 1, 0, 1, 0};
+        for (int k = 0; k < signs.length; k++) {
+            due(c, "2 + 3 " + signs[k] + " 2 + 3", alike[k]);
+            due(c, "9 - 3 " + signs[k] + " 2 * 3", alike[k]);
+            due(c, "not 6 / 2 " + signs[k] + " 9 / 3", 1 - alike[k]);
+            due(c, "0 or 5 " + signs[k] + " 5 and 1", alike[k]);
+        }
+    }
+
     @Sentence(promise = 9, says = "/ is cut towards 0")
     static void cutTowardsNought(Check c) {
         due(c, "7 / 2", 3);

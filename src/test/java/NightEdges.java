@@ -192,6 +192,25 @@ final class NightEdges {
     }
 
     @Sentence(promise = 13, says = "SIGHTS are kept")
+    static void sightsOfAllHouses(Check c) {
+        // each house sees the garden of the one behind it, the last one that of the first
+        String houses = "house a;house b;house c;house d;house e;";
+        for (int house = 0; house < 5; house++) {
+            int garden = (house + 1) % 5;
+            WindowLoans x = Check.told(houses + "hole p " + (char) ('a' + house) + " 1 sees " + (char) ('a' + garden)
+                + ";pane u 1 in p;");
+            x.nights(1);
+            for (int k = 0; k < 25; k++) {
+                c.due("saw(" + k / 5 + ", " + k % 5 + ", -1)", x.saw(k / 5, k % 5, -1),
+                    k == house * 5 + garden ? 1 : 0);
+            }
+        }
+        WindowLoans x = Check.told(houses + "hole p e 1 sees e;pane u 1 in p;");
+        x.nights(61);
+        c.due("the last one sees its own", x.saw(4, 4, -1), 61);
+    }
+
+    @Sentence(promise = 13, says = "SIGHTS are kept")
     static void sightsAreKept(Check c) {
         WindowLoans x = Check.told("house a;house b;hole p a 1 sees b;hole q a 1 sees b;pane u 1 in p;pane v 1 in q;");
         x.nights(1);

@@ -64,6 +64,17 @@ final class PaneEdges {
 
     // ---- promise 7
 
+    @Sentence(promise = 7, says = "what 0 its HOUSE, 1 SIZE")
+    static void houseAndSizeOfAHole(Check c) {
+        WindowLoans x = Check.told("house a;house b;house c;house d;house e;hole p e 9;hole q a 1;hole r c 5;");
+        int[] houses = {4, 0, 2};
+        int[] sizes = {9, 1, 5};
+        for (int hole = 0; hole < 3; hole++) {
+            c.due("house of hole " + hole, x.hole(hole, 0), houses[hole]);
+            c.due("size of hole " + hole, x.hole(hole, 1), sizes[hole]);
+        }
+    }
+
     @Sentence(promise = 7, says = "2 whose garden one sees (NONE)")
     static void whoseGarden(Check c) {
         WindowLoans x = Check.told(TERRACE);

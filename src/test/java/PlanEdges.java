@@ -34,6 +34,56 @@ final class PlanEdges {
         c.due("nor counted", x.count(11), 0);
     }
 
+    @Sentence(promise = 14, says = "From one to another one it takes as many MOVES as panes are elsewhere")
+    static void asManyMovesAsPanesElsewhere(Check c) {
+        for (int stored = 0; stored < 16; stored++) {
+            StringBuilder text = new StringBuilder("house a;hole p a 1;hole q a 2;hole r a 3;hole s a 4;feast 0 a 4;feast 1 a 4;");
+            for (int pane = 0; pane < 4; pane++) {
+                String in = (stored >> pane & 1) != 0 ? "" : " in " + "pqrs".charAt(pane);
+                text.append("pane ").append("uvwz".charAt(pane)).append(' ').append(pane + 1).append(in).append(';');
+            }
+            int moves = Integer.bitCount(stored);
+            c.due(stored + " in store", Check.told(text + "carriers 9;").plan(1), moves);
+            c.due(stored + " in store, two nights", Check.told(text + "carriers 9;").plan(3), moves);
+            c.due(stored + " in store, just enough", Check.told(text + "carriers " + moves + ";").plan(1), moves);
+            c.due(stored + " in store, carriers", Check.told(text.toString()).carriers(1), moves);
+            if (moves > 0) {
+                c.due(stored + " in store, too few", Check.told(text + "carriers " + (moves - 1) + ";").plan(1), -2);
+            }
+        }
+    }
+
+    @Sentence(promise = 14, says = "PLAN: the fewest MOVES in all")
+    static void asMuchAsThereCanBe(Check c) {
+        // five feasts on five nights, four panes that fit all of six holes: three must hang in a, then in b, and so on
+        WindowLoans x = Check.told("house a;house b;hole p a 1;hole q a 1;hole r a 1;hole s b 1;hole t b 1;hole w b 1;"
+            + "pane u 1;pane v 1;pane w 1;pane z 1;feast 0 a 3;feast 1 b 3;feast 2 a 3;feast 3 b 3;feast 4 a 1;carriers 9;");
+        c.due("four to hang, two to change three times", x.plan(31), 4 + 3 * 2);
+        c.due("three on the first night, the fourth on the next", x.carriers(31), 3);
+        int[] inA = {0, 1, 2, 3};
+        int[] inB = {0, 4, 5, 3};
+        for (int pane = 0; pane < 4; pane++) {
+            c.due("pane " + pane + " on night 0", x.hangs(31, 0, pane), inA[pane]);
+            c.due("pane " + pane + " on night 1", x.hangs(31, 1, pane), inB[pane]);
+            c.due("pane " + pane + " on night 2", x.hangs(31, 2, pane), inA[pane]);
+            c.due("pane " + pane + " on night 3", x.hangs(31, 3, pane), inB[pane]);
+            c.due("pane " + pane + " on night 4", x.hangs(31, 4, pane), inB[pane]);
+        }
+    }
+
+    @Sentence(promise = 14, says = "(nothing breaks; all at once)")
+    static void nothingBreaksInAPlan(Check c) {
+        // u must go where v hangs, and v where w hangs
+        WindowLoans x = Check.told("house a;house b;house c;house d;frame 1 2;frame 2 3;frame 3 4;hole p a 1;hole q b 2;"
+            + "hole r c 3;hole s d 4;pane u 1 in p;pane v 2 in q;pane w 3 in r;feast 0 b 1;feast 0 c 1;feast 0 d 1;"
+            + "carriers 3;law snap 100;");
+        c.due("all three", x.plan(7), 3);
+        for (int pane = 0; pane < 3; pane++) {
+            c.due("pane " + pane, x.hangs(7, 0, pane), pane + 1);
+        }
+        c.due("none is broken by asking", x.count(9), 0);
+    }
+
     @Sentence(promise = 14, says = "-2: there is none")
     static void noPlan(Check c) {
         WindowLoans x = Check.told(TERRACE + "pane u 1;pane v 2;feast 0 a 1;feast 0 a 2;feast 0 b 1;feast 0 b 2;feast 1 b 6;"
@@ -92,6 +142,10 @@ final class PlanEdges {
         c.due("two nights of two carriers", x.plan(1), 4);
         x.nights(1);
         c.due("one night of two carriers", x.plan(1), -2);
+        x = Check.told(text + "carriers 1;feast 0 a 0;feast 2 a 2;feast 1 a 4;");
+        c.due("a feast that isn't asked for", x.plan(2), 2);
+        x.nights(2);
+        c.due("one night of one carrier, others are over", x.plan(2), -2);
     }
 
     @Sentence(promise = 14, says = "(less MOVES tonight, 0 at least)")

@@ -212,6 +212,21 @@ final class TaleEdges {
         c.due("four again", x.tales(), 1045);
     }
 
+    @Sentence(promise = 26, says = "no HOLE twice (BROKEN ones stay so)")
+    static void noHoleTwice(Check c) {
+        WindowLoans x = Check.told("house a;hole p a 1;pane u 1 in p;pane v 1;pane w 1;");
+        c.due("one of three, or none", x.tales(), 4);
+        x.light(0, 2);
+        c.due("two in one hole", x.tales(), 0);
+        x.strike(0);
+        x.bird(0);
+        c.due("one of two, or none", x.tales(), 3);
+        x.light(0, 1);
+        c.due("not by the broken one", x.tales(), 2);
+        c.due("by the second", x.tale(0, 1), 0);
+        c.due("by the third", x.tale(1, 2), 0);
+    }
+
     @Sentence(promise = 27, says = "as they come (by PANES, HOLES, then STORE; the last pane goes on first)")
     static void talesAsTheyCome(Check c) {
         WindowLoans x = Check.told(TERRACE);

@@ -259,6 +259,36 @@ final class TextEdges {
         c.due("the tape stays", x.text(20), 1);
     }
 
+    @Sentence(promise = 3, says = "are the TEXT")
+    static void nothingOfTheTextAheadLingers(Check c) {
+        WindowLoans x = Check.told("house a;hole p a 1;hole q a 1;pane u 1;pane v 1;");
+        c.due("orders of two panes", x.tales(), 7);
+        c.due("two hang", x.most(), 2);
+        Check.tell(x, "house a;hole p a 1;pane u 1;");
+        c.due("orders of one", x.tales(), 2);
+        c.due("one hangs", x.most(), 1);
+        Check.tell(x, "house a;hole p a 1;pane u 2;");
+        c.due("orders of one that doesn't fit", x.tales(), 1);
+        // a law of 64 knots, again and again
+        for (int k = 0; k < 4; k++) {
+            Check.tell(x, "house a;law due " + "1+".repeat(31) + "1;law harm 1;");
+            c.due("its law", x.law(0, 0, 0), 32);
+            c.due("its knots", x.count(4), 64);
+        }
+    }
+
+    @Sentence(promise = 3, says = "NONE with a FAULT, all stays")
+    static void nothingOfAFaultLingers(Check c) {
+        WindowLoans x = new WindowLoans();
+        String[] faulty = {"law due ((((((((1 + not", "law due 1 < 2 + ", "carriers 1;seed 1;!", FaultEdges.FULL + "!"};
+        for (String text : faulty) {
+            c.due(text, Check.tell(x, text), -1);
+            c.due("a whole text behind it", Check.tell(x, FaultEdges.FULL), 33);
+            c.due("its knots", x.count(4), 64);
+            c.due("its law", x.law(0, 0, 0), 9999);
+        }
+    }
+
     @Sentence(promise = 3, says = "(in STORE without)")
     static void inStoreWithout(Check c) {
         WindowLoans x = Check.told("house a;hole p a 1;pane u 1;pane v 1 in p;");
