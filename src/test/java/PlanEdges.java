@@ -20,6 +20,13 @@ final class PlanEdges {
         c.due("of none", x.plan(0), 0);
         x.nights(61);
         c.due("of none behind the last night", x.plan(0), 0);
+        // what was asked ahead of it must not linger
+        WindowLoans dark = Check.told("house a;house b;hole p a 1;pane u 1;feast 0 a 1;feast 0 b 1;");
+        c.due("of one", dark.plan(1), 1);
+        c.due("of none behind one", dark.plan(0), 0);
+        c.due("of one that can't be lit", dark.plan(2), -2);
+        c.due("of none behind no plan", dark.plan(0), 0);
+        c.due("carriers of none behind no plan", dark.carriers(0), 0);
     }
 
     @Sentence(promise = 14, says = "PLAN: the fewest MOVES in all")
