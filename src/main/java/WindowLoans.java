@@ -1418,6 +1418,8 @@ public final class WindowLoans {
         static final int STORE = 6;
         /** With four panes that all fit six HOLES: 1 + 4 * 6 + 6 * 30 + 4 * 120 + 360. */
         static final int MOST = 1045;
+        private static final int PLACES = STORE + 1;
+        private static final int ROWS = PLACES * PLACES * PLACES * PLACES;
         private static final int UNLISTED = -1;
 
         final int[] listed = new int[MOST];
@@ -1458,28 +1460,40 @@ public final class WindowLoans {
             listedFor = UNLISTED;
         }
 
+        /** Goes through all rows of places, the last pane's changing first. */
         void list() {
             int broken = standing.broken();
-            if (broken != listedFor) {
-                listedFor = broken;
-                count = 0;
-                extend(0, 0, 0);
+            if (broken == listedFor) {
+                return;
+            }
+            listedFor = broken;
+            count = 0;
+            for (int row = 0; row < ROWS; row++) {
+                int order = 0;
+                int left = row;
+                for (int pane = MOST_PANES - 1; pane >= 0; pane--) {
+                    order = with(order, pane, left % PLACES);
+                    left /= PLACES;
+                }
+                if (canBe(order)) {
+                    add(order);
+                }
             }
         }
 
-        /** Goes on from an order of the panes ahead of this one, by which the used HOLES are. */
-        private void extend(int pane, int order, int used) {
-            if (pane >= MOST_PANES) {
-                add(order);
-                return;
-            }
-            int free = (listedFor >> pane & 1) != 0 ? 0 : terrace.fitting(pane) & ~used;
-            for (int hole = 0; hole < MOST_HOLES; hole++) {
-                if ((free >> hole & 1) != 0) {
-                    extend(pane + 1, with(order, pane, hole), used | 1 << hole);
+        private boolean canBe(int order) {
+            int used = 0;
+            for (int pane = 0; pane < MOST_PANES; pane++) {
+                int place = place(order, pane);
+                if (place != STORE) {
+                    boolean isBroken = (listedFor >> pane & 1) != 0;
+                    if (isBroken || (used >> place & 1) != 0 || !terrace.fits(pane, place)) {
+                        return false;
+                    }
+                    used |= 1 << place;
                 }
             }
-            extend(pane + 1, with(order, pane, STORE), used);
+            return true;
         }
 
         private void add(int order) {
